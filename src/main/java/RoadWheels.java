@@ -62,7 +62,7 @@ public final class RoadWheels {
         tape = new Tape();
         county = new County();
         draft = new County();
-        lawReader = new LawReader();
+        lawReader = new LawReader(tape);
         laws = new Laws();
         ways = new Ways();
         now = new State();
@@ -110,7 +110,7 @@ public final class RoadWheels {
             case 0:
                 return draft.readFrom(tape);
             case 1:
-                return lawReader.readFrom(tape);
+                return lawReader.readLaw();
             case 2:
                 return ways.readFrom(tape);
             default:
@@ -636,17 +636,19 @@ public final class RoadWheels {
             return true;
         }
 
-        /** NONE leaves the tape at the byte that is no digit, or one too many. */
+        /** From right here, blanks are behind; NONE leaves the tape at the byte that is wrong. */
         int number(int mostDigits) {
-            if (!isDigit(sign())) {
-                return NONE;
-            }
             int number = 0;
-            for (int i = 0; i < mostDigits && at < size && isDigit(bytes[at]); i++) {
+            int digits = 0;
+            while (at < size && bytes[at] >= '0' && bytes[at] <= '9') {
+                if (digits >= mostDigits) {
+                    return NONE;
+                }
                 number = number * 10 + bytes[at] - '0';
+                digits++;
                 at++;
             }
-            return at < size && isDigit(bytes[at]) ? NONE : number;
+            return digits == 0 ? NONE : number;
         }
 
         static boolean isDigit(int sign) {
@@ -718,7 +720,6 @@ public final class RoadWheels {
         }
 
         void copyFrom(County other) {
-            rules = other.rules;
             hours = other.hours;
             coins = other.coins;
             places = other.places;
@@ -814,6 +815,9 @@ public final class RoadWheels {
         }
 
         private boolean readNumber(Tape tape, int item) {
+            if (!Tape.isDigit(tape.sign())) {
+                return false;
+            }
             int number = tape.number(ITEM_DIGITS);
             if (number == NONE) {
                 return false;
@@ -879,12 +883,15 @@ public final class RoadWheels {
         private static final int MOST_WITHIN = 6;
         private static final int MOST_DIGITS = 4;
 
+        private final Tape tape;
         private final int[] code = new int[MOST_BYTES];
         private int size;
-        private Tape tape;
 
-        boolean readFrom(Tape text) {
-            tape = text;
+        LawReader(Tape tape) {
+            this.tape = tape;
+        }
+
+        boolean readLaw() {
             tape.at = 0;
             size = 0;
             for (int clause = 0; clause < MOST_BYTES; clause++) {
@@ -1021,7 +1028,11 @@ public final class RoadWheels {
                     return false;
                 }
                 tape.at++;
-                return readSum(within + 1) && tape.takes(']');
+                if (!readSum(within + 1) || tape.sign() != ']') {
+                    return false;
+                }
+                tape.at++;
+                return true;
             }
             int letter = sign < 0 ? NONE : Laws.LETTERS.indexOf((char) sign);
             if (letter < 0) {
@@ -1322,7 +1333,7 @@ public final class RoadWheels {
             return calls;
         }
 
-        private int shortestBetween(int one, int other, int closed) {
+        int shortestBetween(int one, int other, int closed) {
             int best = NONE;
             for (int road = 0; road < county.roads; road++) {
                 boolean goes = (closed >> road & 1) == 0 && county.isBetween(road, one, other);

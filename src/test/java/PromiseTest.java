@@ -1,3 +1,5 @@
+import java.lang.reflect.Method;
+import java.lang.reflect.Modifier;
 import java.util.NoSuchElementException;
 
 /** Each promise of the document: ordinary inputs, the edges that it names, wrong inputs. */
@@ -68,6 +70,19 @@ public final class PromiseTest {
         due("text(1) of " + law, told(x, 1, law), 0);
         due("law(0)", x.law(0), true);
         return x.road(road, 4);
+    }
+
+    private static void face() {
+        int methods = 0;
+        for (Method method : RoadWheels.class.getDeclaredMethods()) {
+            boolean open = Modifier.isPublic(method.getModifiers());
+            methods += open ? 1 : 0;
+            due(method + " is public or private", open || Modifier.isPrivate(method.getModifiers()), true);
+        }
+        due("public methods", methods, 40);
+        due("public constructors", RoadWheels.class.getConstructors().length, 1);
+        due("public constants", RoadWheels.class.getFields().length, 2);
+        due("final", Modifier.isFinal(RoadWheels.class.getModifiers()), true);
     }
 
     private static void newObject() {
@@ -522,7 +537,9 @@ public final class PromiseTest {
         due("its status", x.status(4), 1);
         due("years beyond 999", x.years(8, 1), NONE);
         due("where goes on", x.where(0, 60), 1);
-        due("up to 999", x.days(7), 999);
+        due("years up to 999", x.years(7, 1), 999);
+        x.undo();
+        due("up to 999", x.days(1), 999);
         due("none goes by then", x.days(1), NONE);
         due("no year then", x.years(1, 1), NONE);
         due("the day then", x.count(7), 999);
@@ -895,6 +912,10 @@ public final class PromiseTest {
         told(y, 1, "y:9");
         y.law(0);
         due("by the law that holds none goes", y.ask(0), 1);
+        RoadWheels z = county("sh4;p;p;p;rd0;rb2d0;w", "01", "02");
+        told(z, 1, "y:12-y");
+        z.law(0);
+        due("told apart at the last", z.ask(0), 9);
         y.seen(0, 0, 5, true);
         due("all fit", y.fits(0), 15);
         y.law(NONE);
@@ -1113,39 +1134,40 @@ public final class PromiseTest {
     }
 
     public static void main(String[] args) {
-        newObject();
-        tape();
-        countyFaults();
-        lawFaults();
-        wayFaults();
-        texts();
-        newCounty();
-        asTold();
-        wheels();
-        laws();
-        worths();
-        walked();
-        dayOf();
-        bounds999();
-        puts();
-        carries();
-        barsAndGive();
-        flood();
-        years();
-        undo();
-        logRows();
-        farAndRow();
-        whereAndDone();
-        partedAndJoined();
-        sightings();
-        tour();
-        doors();
-        games();
-        odds();
-        deadAndShares();
-        most();
-        images();
-        counts();
+        face(); // the public face
+        newObject(); // promise 1
+        tape(); // promises 2, 3
+        countyFaults(); // promise 4
+        lawFaults(); // promise 4
+        wayFaults(); // promise 4
+        texts(); // promise 5
+        newCounty(); // promise 5
+        asTold(); // promises 6, 7, 9
+        wheels(); // promise 8
+        laws(); // promise 10
+        worths(); // promises 7, 10
+        walked(); // promise 11
+        dayOf(); // promise 12
+        bounds999(); // promises 12, 16, 18, 24
+        puts(); // promises 13, 19
+        carries(); // promises 14, 19
+        barsAndGive(); // promises 12, 15, 16, 19
+        flood(); // promise 17
+        years(); // promise 18
+        undo(); // promise 20
+        logRows(); // promise 21
+        farAndRow(); // promises 22, 23
+        whereAndDone(); // promises 24, 25
+        partedAndJoined(); // promises 26, 27
+        sightings(); // promises 28, 29, 30
+        tour(); // promise 31
+        doors(); // promise 32
+        games(); // promises 33, 34
+        odds(); // promise 35
+        deadAndShares(); // promises 36, 37
+        most(); // promise 38
+        images(); // promises 39, 40
+        counts(); // promise 41
         System.out.println(asked + " answers, " + wrong + " not as due");
         if (wrong != 0) {
             System.exit(1);
