@@ -8,6 +8,8 @@ public final class AskEdgesTest {
     private static final String RING = "sk99h1;p;p;p;p;rl1d0;ra1b2l1d0;ra2b3l1d0;ra3b0l1d0;w;w";
     /** 0-1, 1-2, .., 5-6, each 1 LONG. */
     private static final String LINE = "sk99h1;p;p;p;p;p;p;p;rl1d0;ra1b2l1d0;ra2b3l1d0;ra3b4l1d0;ra4b5l1d0;ra5b6l1d0;w";
+    /** 0-1 2, 0-2 3, 0-3 4. */
+    private static final String STAR = "p;p;p;p;rl2d0;rb2l3d0;rb3l4d0;w";
     private static final String TWELVE = "rl1;rl2;rl3;rl4;rl5;rl6;rl7;rl8;rl9;rl9d4;rl9d8;rl1";
 
     private static void due(String what, long got, long want) {
@@ -110,6 +112,8 @@ public final class AskEdgesTest {
         due("none to 2", y.far(0, 2), NONE);
         due("to itself all the same", y.far(2, 2), 0);
         due("all 24 LONG", Check.lawful("y:99", LINE).far(0, 6), 144);
+        due("by way of 0", Check.county(STAR).far(1, 2), 5);
+        due("by way of 0, too", Check.county(STAR).far(3, 2), 7);
         Check.says("`int far(int from, int to)`: FAR. NONE: one can't come there, no such PLACES.");
         due("one can't come there", y.far(2, 0), NONE);
         for (int no : new int[] {-1, 3, LOW, HIGH}) {
@@ -127,6 +131,8 @@ public final class AskEdgesTest {
         due("row(6, 0)", x.row(6, 0), 6543210);
         due("row(1, 3)", x.row(1, 3), 123);
         due("row(2, 1)", x.row(2, 1), 21);
+        due("by way of 0", Check.county(STAR).row(1, 2), 102);
+        due("by way of 0, too", Check.county(STAR).row(3, 1), 301);
         Check.says("of several with as few HOURS that with the fewest PLACES, then the least number).");
         String ways = "p;p;p;p;p;rb4l4d0;rb3l2d0;ra3b4l2d0;rb2l2d0;ra2b4l2d0;rb1l2d0;ra1b4l2d0;w";
         due("straight", barred(ways).row(0, 4), 4);
@@ -292,6 +298,10 @@ public final class AskEdgesTest {
             due("place " + place, no.seen(0, place, 1, true), NONE);
         }
         due("none of these", no.count(9), 0);
+        RoadWheels other = Check.county(RING, "01", "03");
+        other.seen(1, 3, 1, true);
+        due("of the SET that was SEEN", other.fits(1), 2);
+        due("of no other", other.fits(0), 3);
         due("the last ones", no.seen(1, 3, 9, true), 1);
         due("no COUNTY", new RoadWheels().seen(0, 0, 1, true), NONE);
     }
@@ -563,6 +573,14 @@ public final class AskEdgesTest {
         return (int) all;
     }
 
+    private static int[][] without(int[][] roads, int closed) {
+        int[][] left = new int[roads.length - 1][];
+        for (int road = 0; road < left.length; road++) {
+            left[road] = roads[road < closed ? road : road + 1];
+        }
+        return left;
+    }
+
     private static void odds() {
         Check.says("ODDS for two PLACES and a chance (0 .. 100): each open ROAD is closed by chance, each by itself, by numbers:");
         RoadWheels one = Check.county("p;p;p;r;w");
@@ -588,6 +606,12 @@ public final class AskEdgesTest {
         due("four of 99", Check.county("p;p;r;r;r;r;w").odds(0, 1, 99), 1000000000 - 960596010);
         due("five of 99", Check.county("p;p;r;r;r;r;r;w").odds(0, 1, 99), 1000000000 - 950990049);
         due("six of 99, cut", Check.county("p;p;r;r;r;r;r;r;w").odds(0, 1, 99), 1000000000 - 941480148);
+        for (int closed = 0; closed < roads.length; closed++) {
+            x.bars(closed);
+            due("without ROAD " + closed, x.odds(0, 3, 7), oddsByRows(without(roads, closed), 0, 3, 7));
+            due("without ROAD " + closed, x.odds(2, 0, 33), oddsByRows(without(roads, closed), 2, 0, 33));
+            x.bars(closed);
+        }
         RoadWheels two = Check.county("p;p;r;r;w");
         two.bars(0);
         due("each open ROAD", two.odds(0, 1, 50), 500000000);
@@ -634,6 +658,11 @@ public final class AskEdgesTest {
                 due("shares(" + place + ", " + c + ")", x.shares(place, c), c * calls[place] / 3);
             }
         }
+        RoadWheels first = Check.county("p;p;r;w", "0001");
+        first.puts(0, 0);
+        first.days(1);
+        due("of the first PLACE", first.shares(0, 999), 666);
+        due("of the other", first.shares(1, 999), 333);
         RoadWheels one = Check.county("p;p;r;w", "01");
         one.puts(0, 0);
         one.days(1);
@@ -686,6 +715,8 @@ public final class AskEdgesTest {
         x.bars(5);
         due("6 can come to itself alone", x.most(4), 6);
         due("of a ring the lowest", Check.county(RING).most(4), 0);
+        due("2 can come to itself alone, in no HOUR", Check.county("p;p;p;rl1d0;w").most(4), 2);
+        due("in the middle of a star", Check.county("p;p;p;p;ra3b0;ra3b1;ra3b2;w").most(4), 3);
         due("of four in a row the lower", barred(RING, 3).most(4), 1);
         due("of two", Check.county("p;p;r;w").most(4), 0);
         due("all alone", barred(RING, 0, 1, 2, 3).most(4), 0);

@@ -101,6 +101,15 @@ public final class DayEdgesTest {
         holdsDue("!l=2&d=6", false);
         holdsDue("!(l=2&d=6)", true);
         holdsDue("!l=2|l=2", true);
+        holdsDue("l<4&d=7", true);
+        holdsDue("l>2&d=7", true);
+        holdsDue("d=7&l<4&l>2&d>6", true);
+        holdsDue("!l<4", false);
+        holdsDue("!l<3", true);
+        holdsDue("!l>2", false);
+        holdsDue("!l>3", true);
+        holdsDue("!(l=3&d=7)", false);
+        holdsDue("!(l=2|d=7)", false);
     }
 
     // LONG

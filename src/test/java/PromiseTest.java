@@ -1,6 +1,5 @@
 import java.lang.reflect.Method;
 import java.lang.reflect.Modifier;
-import java.util.NoSuchElementException;
 
 /** Each promise of the document: ordinary inputs, the edges that it names, wrong inputs. */
 public final class PromiseTest {
@@ -15,59 +14,24 @@ public final class PromiseTest {
     /** A row of four PLACES, each ROAD of 4 HOURS, 12 HOURS a DAY. */
     private static final String LINE = "p;p;p;p;ra0b1d0;ra1b2d0;ra2b3d0;w";
 
-    private static int wrong = 0;
-    private static int asked = 0;
-
     private static void due(String what, long got, long want) {
-        asked++;
-        if (got != want) {
-            wrong++;
-            System.out.println(what + " answered " + got + ", due is " + want);
-        }
+        Check.due(what, got, want);
     }
 
     private static void due(String what, boolean got, boolean want) {
-        due(what, got ? 1 : 0, want ? 1 : 0);
-    }
-
-    private static int fed(RoadWheels x, String text) {
-        int size = x.count(5);
-        for (int i = 0; i < text.length(); i += 20) {
-            int[] words = new int[5];
-            for (int j = 0; j < 20; j++) {
-                int sign = i + j < text.length() ? text.charAt(i + j) : 0;
-                words[j / 4] |= sign << 24 - j % 4 * 8;
-            }
-            size = x.feed(words[0], words[1], words[2], words[3], words[4]);
-        }
-        return size;
-    }
-
-    private static int told(RoadWheels x, int sort, String text) {
-        x.end(0);
-        fed(x, text);
-        return x.text(sort);
-    }
-
-    private static RoadWheels county(String text, String... ways) {
-        RoadWheels x = new RoadWheels();
-        told(x, 0, text);
-        for (String way : ways) {
-            told(x, 2, way);
-        }
-        return x;
+        Check.due(what, got, want);
     }
 
     private static void faultDue(int sort, String text, int want) {
         RoadWheels x = new RoadWheels();
-        fed(x, text);
+        Check.feed(x, text);
         due("fault(" + sort + ") of \"" + text + "\"", x.fault(sort), want);
         due("count(5) behind fault(" + sort + ") of \"" + text + "\"", x.count(5), text.length());
     }
 
     private static int lawOn(String county, String law, int road) {
-        RoadWheels x = county(county);
-        due("text(1) of " + law, told(x, 1, law), 0);
+        RoadWheels x = Check.county(county);
+        due("text(1) of " + law, Check.tell(x, 1, law), 0);
         due("law(0)", x.law(0), true);
         return x.road(road, 4);
     }
@@ -263,7 +227,7 @@ public final class PromiseTest {
 
     private static void texts() {
         RoadWheels x = new RoadWheels();
-        fed(x, HILLS);
+        Check.feed(x, HILLS);
         due("text(3)", x.text(3), NONE);
         due("text(-1)", x.text(-1), NONE);
         due("text(1) of a county", x.text(1), NONE);
@@ -274,14 +238,14 @@ public final class PromiseTest {
         due("sets", x.count(2), 2);
         due("text(0) of nothing", x.text(0), NONE);
         for (int i = 0; i < 4; i++) {
-            due("law " + i, told(x, 1, "y:l+" + i), i);
-            due("way " + i, told(x, 2, "0" + i), i);
+            due("law " + i, Check.tell(x, 1, "y:l+" + i), i);
+            due("way " + i, Check.tell(x, 2, "0" + i), i);
         }
-        fed(x, "y:l");
+        Check.feed(x, "y:l");
         due("a fifth law", x.text(1), NONE);
         due("its tape is left", x.count(5), 3);
         x.end(0);
-        fed(x, "00");
+        Check.feed(x, "00");
         due("a fifth way", x.text(2), NONE);
         due("its tape is left, too", x.count(5), 2);
         due("laws", x.count(3), 4);
@@ -289,8 +253,8 @@ public final class PromiseTest {
     }
 
     private static void newCounty() {
-        RoadWheels x = county(HILLS, "0123");
-        told(x, 1, "y:3");
+        RoadWheels x = Check.county(HILLS, "0123");
+        Check.tell(x, 1, "y:3");
         x.law(0);
         x.flood(7);
         x.puts(0, 0);
@@ -299,7 +263,7 @@ public final class PromiseTest {
         x.bars(0);
         x.seen(0, 0, 1, true);
         x.image();
-        due("text(0) of another", told(x, 0, LINE), 4);
+        due("text(0) of another", Check.tell(x, 0, LINE), 4);
         int[] counts = {4, 3, 1, 1, 1, 0, 0, 0, 7, 0, 0, 0};
         for (int what = 0; what < counts.length; what++) {
             due("count(" + what + ") of another", x.count(what), counts[what]);
@@ -318,7 +282,7 @@ public final class PromiseTest {
     }
 
     private static void asTold() {
-        RoadWheels x = county(HILLS);
+        RoadWheels x = Check.county(HILLS);
         due("rule(0)", x.rule(0), 6);
         due("rule(1)", x.rule(1), 9);
         due("rule(2)", x.rule(2), NONE);
@@ -341,21 +305,16 @@ public final class PromiseTest {
         due("spot(2, 2)", x.spot(2, 2), NONE);
         due("spot(5, 0)", x.spot(5, 0), NONE);
         due("spot(-1, 0)", x.spot(-1, 0), NONE);
-        due("usual hours", county(LINE).rule(0), 12);
-        due("usual coins", county(LINE).rule(1), 20);
+        due("usual hours", Check.county(LINE).rule(0), 12);
+        due("usual coins", Check.county(LINE).rule(1), 20);
     }
 
     private static boolean wheelsThrows(RoadWheels x, int set, int what) {
-        try {
-            x.wheels(set, what);
-            return false;
-        } catch (NoSuchElementException e) {
-            return true;
-        }
+        return Check.wheels(x, set, what) == Check.THROWN;
     }
 
     private static void wheels() {
-        RoadWheels x = county(HILLS, "0011");
+        RoadWheels x = Check.county(HILLS, "0011");
         due("wheels(1, 0)", x.wheels(1, 0), 2);
         due("wheels(1, 1)", x.wheels(1, 1), NONE);
         due("wheels(1, 2)", x.wheels(1, 2), 0);
@@ -371,11 +330,11 @@ public final class PromiseTest {
     }
 
     private static void laws() {
-        RoadWheels x = county(HILLS);
+        RoadWheels x = Check.county(HILLS);
         due("law(NONE)", x.law(NONE), true);
         due("law(0) of none", x.law(0), false);
-        told(x, 1, "y:7");
-        told(x, 1, "y:8");
+        Check.tell(x, 1, "y:7");
+        Check.tell(x, 1, "y:8");
         due("none holds at first", x.count(6), NONE);
         due("law(1)", x.law(1), true);
         due("law(1) again", x.law(1), true);
@@ -416,10 +375,10 @@ public final class PromiseTest {
         due("less or alike is not less", lawOn(one, "y:l<3?20;y:9", 0), 9);
         due("more", lawOn(one, "y:l>2&!l>3?20;y:9", 0), 20);
 
-        RoadWheels x = county("sk50;p;p;p;rl2;rb2;w", "0101");
-        told(x, 1, "y:1+n");
-        told(x, 1, "y:1+r*5");
-        told(x, 1, "y:1+y");
+        RoadWheels x = Check.county("sk50;p;p;p;rl2;rb2;w", "0101");
+        Check.tell(x, 1, "y:1+n");
+        Check.tell(x, 1, "y:1+r*5");
+        Check.tell(x, 1, "y:1+y");
         x.puts(0, 0);
         x.days(1);
         x.law(0);
@@ -438,7 +397,7 @@ public final class PromiseTest {
     }
 
     private static void walked() {
-        RoadWheels x = county(HILLS, " 0 9 9 1");
+        RoadWheels x = Check.county(HILLS, " 0 9 9 1");
         due("walked(0, NONE)", x.walked(0, NONE), 4);
         due("walked(0, 1)", x.walked(0, 1), 9);
         due("walked(0, 3)", x.walked(0, 3), 1);
@@ -449,7 +408,7 @@ public final class PromiseTest {
     }
 
     private static void dayOf() {
-        RoadWheels x = county("sh8k9;pc0;p;p;p;p;ra0b1l4d0;ra1b0l3d0;ra1b0l3d0;ra1b2l5d0;ra2b3l9d0;w;ws1", "0012", "123", "1900");
+        RoadWheels x = Check.county("sh8k9;pc0;p;p;p;p;ra0b1l4d0;ra1b0l3d0;ra1b0l3d0;ra1b2l5d0;ra2b3l9d0;w;ws1", "0012", "123", "1900");
         x.puts(0, 0);
         x.puts(1, 1);
         due("coins behind two puts", x.rule(1), 3);
@@ -478,7 +437,7 @@ public final class PromiseTest {
         due("no road to a place that is not there", x.wheels(1, 2), 1);
         due("it stays where it is", x.wheels(1, 0), 1);
 
-        RoadWheels y = county("sk9h24;p;p;r;w", "0101010101");
+        RoadWheels y = Check.county("sk9h24;p;p;r;w", "0101010101");
         y.puts(0, 0);
         y.bars(0);
         y.days(1);
@@ -491,8 +450,8 @@ public final class PromiseTest {
         y.days(1);
         due("its last place", y.wheels(0, 1), NONE);
 
-        RoadWheels z = county("sk9h8;p;p;rl1d0;rl4d0;w", "01010101");
-        told(z, 1, "y:l+n*5");
+        RoadWheels z = Check.county("sk9h8;p;p;rl1d0;rl4d0;w", "01010101");
+        Check.tell(z, 1, "y:l+n*5");
         z.law(0);
         z.puts(0, 0);
         z.days(1);
@@ -501,8 +460,8 @@ public final class PromiseTest {
     }
 
     private static void bounds999() {
-        RoadWheels x = county("sk0h24;p;pc1;rl1d0;w", "010101010101");
-        told(x, 1, "y:1");
+        RoadWheels x = Check.county("sk0h24;p;pc1;rl1d0;w", "010101010101");
+        Check.tell(x, 1, "y:1");
         x.law(0);
         x.give(50);
         for (int i = 0; i < 60; i++) {
@@ -548,7 +507,7 @@ public final class PromiseTest {
     }
 
     private static void puts() {
-        RoadWheels x = county(HILLS, "0123", "2 1", "92", "02");
+        RoadWheels x = Check.county(HILLS, "0123", "2 1", "92", "02");
         due("puts(2, 9)", x.puts(2, 9), NONE);
         due("puts(-1, 0)", x.puts(-1, 0), NONE);
         due("status 0", x.status(0), 2);
@@ -574,7 +533,7 @@ public final class PromiseTest {
     }
 
     private static void carries() {
-        RoadWheels x = county(HILLS, "01");
+        RoadWheels x = Check.county(HILLS, "01");
         due("carries(2, 0)", x.carries(2, 9), NONE);
         due("status 0", x.status(0), 1);
         due("carries(0, 5)", x.carries(0, 5), NONE);
@@ -596,7 +555,7 @@ public final class PromiseTest {
     }
 
     private static void barsAndGive() {
-        RoadWheels x = county("sk1;p;p;r;r;w");
+        RoadWheels x = Check.county("sk1;p;p;r;r;w");
         due("bars(2)", x.bars(2), NONE);
         due("bars(-1)", x.bars(-1), NONE);
         due("status 0", x.status(0), 2);
@@ -644,7 +603,7 @@ public final class PromiseTest {
 
     /** The draws are worked out here by themselves. */
     private static void years() {
-        RoadWheels x = county("sk5h4;p;p;p;rb1d0;ra1b2d0;ra0b2d0;w;ws1", "012", "10", "12");
+        RoadWheels x = Check.county("sk5h4;p;p;p;rb1d0;ra1b2d0;ra0b2d0;w;ws1", "012", "10", "12");
         due("years(0)", x.years(0, 1), NONE);
         due("years(61)", x.years(61, 1), NONE);
         due("no status of years", x.status(0) + x.status(1) + x.status(4), 0);
@@ -703,7 +662,7 @@ public final class PromiseTest {
     }
 
     private static void undo() {
-        RoadWheels x = county("sk99;p;p;p;r;ra1b2;w", "012", "10");
+        RoadWheels x = Check.county("sk99;p;p;p;r;ra1b2;w", "012", "10");
         due("undo of none", x.undo(), NONE);
         x.puts(0, 0);
         x.bars(1);
@@ -749,7 +708,7 @@ public final class PromiseTest {
     }
 
     private static void logRows() {
-        RoadWheels x = county("sk99h4;p;p;p;rd0;ra1b2d0;w", "0120");
+        RoadWheels x = Check.county("sk99h4;p;p;p;rd0;ra1b2d0;w", "0120");
         due("log(0, 0) of none", x.log(0, 0), NONE);
         x.puts(0, 0);
         x.days(1);
@@ -767,7 +726,7 @@ public final class PromiseTest {
     }
 
     private static void farAndRow() {
-        RoadWheels x = county(HILLS);
+        RoadWheels x = Check.county(HILLS);
         due("far(0, 2)", x.far(0, 2), 8);
         due("far(3, 0)", x.far(3, 0), 9);
         due("far(4, 4)", x.far(4, 4), 0);
@@ -785,17 +744,17 @@ public final class PromiseTest {
         x.bars(4);
         due("far by the long one", x.far(0, 2), 11);
         due("row by the long one", x.row(0, 3), 23);
-        RoadWheels y = county("p;p;p;p;p;ra0b4l4d0;ra0b3l2d0;ra3b4l2d0;ra0b2l1d0;ra2b1l1d0;ra1b4l2d0;w");
+        RoadWheels y = Check.county("p;p;p;p;p;ra0b4l4d0;ra0b3l2d0;ra3b4l2d0;ra0b2l1d0;ra2b1l1d0;ra1b4l2d0;w");
         due("as few hours: fewest places", y.row(0, 4), 4);
         y.bars(0);
         due("then fewer places, not the least digits", y.row(0, 4), 34);
-        RoadWheels z = county("p;p;p;p;p;ra0b3l2d0;ra3b4l2d0;ra0b2l1d0;ra2b4l3d0;w");
+        RoadWheels z = Check.county("p;p;p;p;p;ra0b3l2d0;ra3b4l2d0;ra0b2l1d0;ra2b4l3d0;w");
         due("as many places: the least number", z.row(0, 4), 24);
         due("from the other end", z.row(4, 0), 420);
     }
 
     private static void whereAndDone() {
-        RoadWheels x = county("sk20h4;p;p;p;p;rd0;ra1b2d0;ra2b3d0;w;ws1", "0123", "10", "011");
+        RoadWheels x = Check.county("sk20h4;p;p;p;p;rd0;ra1b2d0;ra2b3d0;w;ws1", "0123", "10", "011");
         due("where without a way", x.where(0, 60), 0);
         due("done without a way", x.done(0), 0);
         x.puts(0, 0);
@@ -814,7 +773,7 @@ public final class PromiseTest {
         due("done behind a closed road", x.done(0), NONE);
         due("where then", x.where(0, 60), 2);
 
-        told(x, 1, "y:4+n*9");
+        Check.tell(x, 1, "y:4+n*9");
         x.law(0);
         x.puts(1, 1);
         due("who goes on the same day does no harm", x.where(0, 1), 1);
@@ -826,24 +785,24 @@ public final class PromiseTest {
         x.days(1);
         due("both went", x.road(0, 5), 2);
 
-        RoadWheels y = county("sk20h9;p;p;rd0;w", "01");
-        told(y, 1, "y:60-y");
+        RoadWheels y = Check.county("sk20h9;p;p;rd0;w", "01");
+        Check.tell(y, 1, "y:60-y");
         y.law(0);
         y.puts(0, 0);
         due("not yet", y.where(0, 51), 0);
         due("when the law lets it", y.where(0, 52), 1);
         due("done then", y.done(0), 52);
         y.law(NONE);
-        told(y, 1, "y:69-y");
+        Check.tell(y, 1, "y:69-y");
         y.law(1);
         due("done within 60", y.done(0), NONE);
-        told(y, 1, "y:68-y");
+        Check.tell(y, 1, "y:68-y");
         y.law(2);
         due("done at 60", y.done(0), 60);
     }
 
     private static void partedAndJoined() {
-        RoadWheels x = county(HILLS);
+        RoadWheels x = Check.county(HILLS);
         due("parted(0, 3)", x.parted(0, 3), 8);
         due("parted(0, 2)", x.parted(0, 2), 6);
         due("parted(0, 1)", x.parted(0, 1), 19);
@@ -863,7 +822,7 @@ public final class PromiseTest {
         due("joined by one, not two", x.joined(0, 2), 4);
         due("joined by the least of several", x.joined(0, 3), 4);
         due("joined by the other", x.joined(1, 3), 2);
-        RoadWheels y = county("p;p;p;p;rb3;ra3b1;rb2;ra2b1;w");
+        RoadWheels y = Check.county("p;p;p;p;rb3;ra3b1;rb2;ra2b1;w");
         due("parted, least of several", y.parted(0, 1), 5);
         for (int road = 0; road < 4; road++) {
             y.bars(road);
@@ -875,7 +834,7 @@ public final class PromiseTest {
 
     private static void sightings() {
         String county = "sk99h4;p;p;p;p;rd0;ra1b2d0;ra2b3d0;ra0b3d0;w;ws1";
-        RoadWheels x = county(county, "0123", "0321", "12", "0100");
+        RoadWheels x = Check.county(county, "0123", "0321", "12", "0100");
         due("fits all that begin there", x.fits(0), 11);
         due("fits of set 1", x.fits(1), 4);
         due("fits(2)", x.fits(2), NONE);
@@ -907,13 +866,13 @@ public final class PromiseTest {
         due("seen is no act: undo of the day", x.undo(), 2);
         due("seen is left", x.count(9), 10);
 
-        RoadWheels y = county(county, "0123", "0103", "0303", "0121");
+        RoadWheels y = Check.county(county, "0123", "0103", "0303", "0121");
         due("ask: three alike at 1, two at 2", y.ask(0), 2);
-        told(y, 1, "y:9");
+        Check.tell(y, 1, "y:9");
         y.law(0);
         due("by the law that holds none goes", y.ask(0), 1);
-        RoadWheels z = county("sh4;p;p;p;rd0;rb2d0;w", "01", "02");
-        told(z, 1, "y:12-y");
+        RoadWheels z = Check.county("sh4;p;p;p;rd0;rb2d0;w", "01", "02");
+        Check.tell(z, 1, "y:12-y");
         z.law(0);
         due("told apart at the last", z.ask(0), 9);
         y.seen(0, 0, 5, true);
@@ -923,7 +882,7 @@ public final class PromiseTest {
     }
 
     private static void tour() {
-        RoadWheels x = county(HILLS);
+        RoadWheels x = Check.county(HILLS);
         due("tour(0, 12, 0)", x.tour(0, 12, 0), 18);
         due("tour(0, 12, 1)", x.tour(0, 12, 1), 23);
         due("tour(0, 13, 1)", x.tour(0, 13, 1), 23);
@@ -941,14 +900,14 @@ public final class PromiseTest {
         due("tour(-1, 1, 0)", x.tour(-1, 1, 0), NONE);
         due("tour(0, 1, 2)", x.tour(0, 1, 2), NONE);
         due("tour(0, 1, -1)", x.tour(0, 1, -1), NONE);
-        RoadWheels y = county("p;p;p;p;rb3l1d0;ra3b2l1d0;ra2b1l1d0;rl1d0;w");
+        RoadWheels y = Check.county("p;p;p;p;rb3l1d0;ra3b2l1d0;ra2b1l1d0;rl1d0;w");
         due("round", y.tour(0, 14, 0), 4);
         due("round, the least", y.tour(0, 14, 1), 123);
         due("round, two of them", y.tour(0, 10, 0), 4);
     }
 
     private static void doors() {
-        RoadWheels x = county(HILLS);
+        RoadWheels x = Check.county(HILLS);
         due("doors(8, 0)", x.doors(8, 0), 93);
         due("doors(8, 1)", x.doors(8, 1), 1);
         due("doors(10, 0)", x.doors(10, 0), 13);
@@ -964,14 +923,14 @@ public final class PromiseTest {
         due("doors(1, 2)", x.doors(1, 2), NONE);
         due("doors(1, -1)", x.doors(1, -1), NONE);
         due("doors without a county", new RoadWheels().doors(1, 0), NONE);
-        RoadWheels y = county("p;p;p;rd0;ra1b2d0;ra0b2d0;w;w;w;w");
+        RoadWheels y = Check.county("p;p;p;rd0;ra1b2d0;ra0b2d0;w;w;w;w");
         due("the least row of several", y.doors(6, 0), 1299);
         due("its hours", y.doors(6, 1), 8);
         due("as many as can", y.doors(7, 0), 129);
     }
 
     private static void games() {
-        RoadWheels x = county(HILLS);
+        RoadWheels x = Check.county(HILLS);
         due("alone, the one", x.game(0, 1, 1, 2, 0), 5);
         due("alone, the other", x.game(0, 1, 1, 2, 1), 15);
         due("both there, the one", x.game(0, 1, 2, 2, 0), 3);
@@ -995,14 +954,14 @@ public final class PromiseTest {
         due("the other way round", x.rests(1, 0, 0), 20);
         due("rests alike", x.rests(0, 0, NONE), NONE);
         due("rests of no such", x.rests(0, 2, NONE), NONE);
-        RoadWheels y = county("pc3;pc3;rl1d0;w;w");
+        RoadWheels y = Check.county("pc3;pc3;rl1d0;w;w");
         due("two rests", y.rests(0, 1, NONE), 2);
         due("rising", y.rests(0, 1, 0), 1);
         due("the next", y.rests(0, 1, 1), 10);
     }
 
     private static void odds() {
-        RoadWheels x = county("p;p;p;rd0;ra1b2;ra0b2;w");
+        RoadWheels x = Check.county("p;p;p;rd0;ra1b2;ra0b2;w");
         due("to itself", x.odds(1, 1, 100), 1000000000);
         due("chance 0", x.odds(0, 2, 0), 1000000000);
         due("chance 100", x.odds(0, 2, 100), 0);
@@ -1016,7 +975,7 @@ public final class PromiseTest {
         due("one road", x.odds(0, 1, 7), 930000000);
         x.bars(0);
         due("none", x.odds(0, 1, 0), 0);
-        RoadWheels y = county("p;p;r;r;r;r;r;r;w");
+        RoadWheels y = Check.county("p;p;r;r;r;r;r;r;w");
         long closed = 1000000000;
         for (int i = 0; i < 6; i++) {
             closed = closed * 3 / 100;
@@ -1025,7 +984,7 @@ public final class PromiseTest {
     }
 
     private static void deadAndShares() {
-        RoadWheels x = county(HILLS, "0123");
+        RoadWheels x = Check.county(HILLS, "0123");
         due("dead(0)", x.dead(0), 1);
         due("dead(4)", x.dead(4), 4);
         due("dead(5)", x.dead(5), NONE);
@@ -1047,7 +1006,7 @@ public final class PromiseTest {
     }
 
     private static void most() {
-        RoadWheels x = county(HILLS, "0123", "21012");
+        RoadWheels x = Check.county(HILLS, "0123", "21012");
         int[] first = {0, 2, 2, 0, 4, 8, 0, 0, 25, 2};
         for (int what = 0; what < first.length; what++) {
             due("most(" + what + ")", x.most(what), first[what]);
@@ -1067,7 +1026,7 @@ public final class PromiseTest {
         due("all that are open", x.most(8), 14);
         x.bars(3);
         due("parts", x.most(9), 3);
-        RoadWheels y = county("pc1;pc4;pc4;p;rb1l1d0;ra1b2l1d0;ra2b3l2d0;w", "01", "0 1 2");
+        RoadWheels y = Check.county("pc1;pc4;pc4;p;rb1l1d0;ra1b2l1d0;ra2b3l2d0;w", "01", "0 1 2");
         due("middle", y.most(4), 2);
         due("rich, the lowest", y.most(1), 1);
         y.puts(0, 1);
@@ -1075,7 +1034,7 @@ public final class PromiseTest {
     }
 
     private static void images() {
-        RoadWheels x = county("sk50h4;p;p;p;rd0;ra1b2d0;w", "0120", "210");
+        RoadWheels x = Check.county("sk50h4;p;p;p;rd0;ra1b2d0;w", "0120", "210");
         due("back of none", x.back(), NONE);
         x.puts(0, 0);
         x.days(1);
@@ -1116,15 +1075,15 @@ public final class PromiseTest {
     }
 
     private static void counts() {
-        RoadWheels x = county(HILLS, "01", "02", "03");
-        told(x, 1, "y:l");
-        told(x, 1, "y:d");
+        RoadWheels x = Check.county(HILLS, "01", "02", "03");
+        Check.tell(x, 1, "y:l");
+        Check.tell(x, 1, "y:d");
         x.law(1);
         x.flood(5);
         x.seen(0, 0, 1, true);
         x.days(3);
         x.give(1);
-        fed(x, "abc");
+        Check.feed(x, "abc");
         int[] counts = {5, 5, 2, 2, 3, 3, 1, 3, 5, 1, 3, 4};
         for (int what = 0; what < counts.length; what++) {
             due("count(" + what + ")", x.count(what), counts[what]);
@@ -1168,9 +1127,6 @@ public final class PromiseTest {
         most(); // promise 38
         images(); // promises 39, 40
         counts(); // promise 41
-        System.out.println(asked + " answers, " + wrong + " not as due");
-        if (wrong != 0) {
-            System.exit(1);
-        }
+        Check.finish();
     }
 }

@@ -506,6 +506,11 @@ public final class TextEdgesTest {
         faultDue(LAW, "y:((((((l=1))))))?[[[[[[[l", 24);
         faultDue(LAW, "y:!!!!!!l=1&[[[[[[l]]]]]]=1?1;y:[[[[[[l]]]]]]", NONE);
         faultDue(LAW, "y:[[[[[[l]]]]]]=[[[[[[l]]]]]]?1", NONE);
+        faultDue(LAW, "y:l=[[[[[[[", 10);
+        faultDue(LAW, "y:l=1&((((((l=1))))))|!!!!!!l=1?1", NONE);
+        faultDue(LAW, "y:l=1&(((((((", 12);
+        faultDue(LAW, "y:l=1|!!!!!!!", 12);
+        faultDue(LAW, "y:(l=1)|!!!!!!!", 14);
     }
 
     /** All rows of ! and (: six of them hold, a seventh of either sort, or a [, is wrong. */
@@ -620,7 +625,7 @@ public final class TextEdgesTest {
         Check.tell(x, 1, "y:l+n");
         Check.tell(x, 1, "y:d+r+y+n");
         x.law(1);
-        Check.tell(x, 2, "0101");
+        Check.tell(x, 2, "0010");
         Check.tell(x, 2, "210");
         x.flood(9);
         if (another) {

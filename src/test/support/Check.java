@@ -57,7 +57,7 @@ final class Check {
     static void fail(String what) {
         wrong++;
         if (wrong <= MOST_SHOWN) {
-            System.out.println("\"" + sentence + "\": " + what);
+            System.out.println((sentence.isEmpty() ? "" : "\"" + sentence + "\": ") + what);
         }
     }
 
