@@ -141,6 +141,77 @@ public final class TextEdgesTest {
         Check.due("end(240)", full.end(240), true);
     }
 
+    /** Bytes that were there behind the TAPE's end are gone, whatever they were. */
+    private static void firstBytesAlone() {
+        Check.says("The TAPE has its first n bytes alone. False: n.");
+        String[] texts = {"p ; p ; r ; w ", "sh12k99;pc9;p;rl9;ws1   ", "y : l = 12 ? [ d ] ; y : 9999 ", "y:!!!(((l<1)))|d=2?3",
+            "  0 1 2 3 4  ", "012345678901", "0   "};
+        for (String text : texts) {
+            for (int n = 0; n <= text.length(); n++) {
+                RoadWheels x = new RoadWheels();
+                Check.feed(x, text);
+                Check.due("end(" + n + ") of " + text, x.end(n), true);
+                for (int sort = 0; sort < 3; sort++) {
+                    due("fault(" + sort + ") of " + n + " of " + text, x.fault(sort), Check.fault(sort, text.substring(0, n)));
+                }
+            }
+        }
+        RoadWheels y = new RoadWheels();
+        Check.feed(y, "p;p   ");
+        y.end(3);
+        due("ends too early", y.fault(COUNTY), 3);
+    }
+
+    private static void longTexts() {
+        Check.says("how many it has. NONE: more than 240.");
+        String blanks = Check.times(240, " ", "");
+        longDue(COUNTY, ("p;p;r;w" + blanks).substring(0, 240), NONE);
+        longDue(COUNTY, blanks.substring(7) + "p;p;r;w", NONE);
+        longDue(COUNTY, blanks.substring(6) + "p;p;r;", 240);
+        longDue(COUNTY, blanks.substring(6) + "p;p;rl", 240);
+        longDue(COUNTY, blanks, 240);
+        longDue(LAW, "y:" + Check.times(118, "1", "+") + "+11", NONE);
+        longDue(LAW, Check.times(60, "y:l", ";") + " ", NONE);
+        longDue(LAW, Check.times(60, "y:l", ";") + ";", 240);
+        longDue(LAW, "y:" + Check.times(118, "1", "+") + "+1+", 240);
+        longDue(LAW, blanks.substring(6) + "y:9999", NONE);
+        longDue(LAW, blanks, 240);
+        longDue(WAY, blanks.substring(2) + "01", NONE);
+        longDue(WAY, blanks.substring(1) + "0", 240);
+        longDue(WAY, Check.times(240, "0", ""), 12);
+        RoadWheels x = Check.lawful("y:" + Check.times(118, "1", "+") + "-99", "p;p;r;w");
+        due("LONG by 240 bytes", x.road(0, 4), 19);
+    }
+
+    private static void longDue(int sort, String text, int want) {
+        due("240 bytes", text.length(), 240);
+        faultDue(sort, text, want);
+    }
+
+    /** What was told with a FAULT leaves nothing to what is told behind it. */
+    private static RoadWheels told(String first, int sort, String... then) {
+        RoadWheels x = new RoadWheels();
+        Check.tell(x, sort, first);
+        for (String text : then) {
+            Check.tell(x, text.startsWith("y") ? LAW : text.startsWith("0") ? WAY : COUNTY, text);
+        }
+        x.law(0);
+        x.end(0);
+        return x;
+    }
+
+    private static void behindFaults() {
+        Check.says("What is refused answers as told and changes nothing but STATUS.");
+        Look look = new Look();
+        String[] then = {"p;p;r;w", "y:l=3?2;y:d", "010"};
+        String[] faults = {"sh1k1;pc9;pc9;pc9;ra2b1l9d9;ra1b0;ws2;ws1;x", "y:l>1?9999;y:", "012345678901x"};
+        for (int sort = 0; sort < 3; sort++) {
+            String fault = faults[sort];
+            int as = sort;
+            look.alike("behind " + fault, () -> told(fault, as, then), () -> told("", as, then));
+        }
+    }
+
     // the COUNTY
 
     private static void clauses() {
@@ -695,6 +766,9 @@ public final class TextEdgesTest {
         bytesOfNumbers();
         fullTape();
         ends();
+        firstBytesAlone();
+        longTexts();
+        behindFaults();
         clauses();
         anyOrder();
         items();
