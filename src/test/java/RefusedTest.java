@@ -19,8 +19,8 @@ public final class RefusedTest {
     private static Look.Make state;
 
     /** What is looked at behind a call, too; each goes on from an object of its own. */
-    private static final String[] THEN_NAMES = {"as it is", "one UNDONE", "all UNDONE", "BACK", "a LAW", "none holds",
-        "as a COUNTY", "as a LAW", "as a WAY", "a DAY later"};
+    private static final String[] THEN_NAMES = {"as it is", "one UNDONE", "all UNDONE", "BACK", "a DAY later",
+        "as a COUNTY", "as a LAW", "as a WAY", "no LAW", "LAW 0", "LAW 1", "LAW 2", "LAW 3"};
 
     private static void then(RoadWheels x, int what) {
         switch (what) {
@@ -38,16 +38,15 @@ public final class RefusedTest {
                 x.back();
                 break;
             case 4:
-                x.law(0);
-                break;
-            case 5:
-                x.law(NONE);
-                break;
-            case 9:
                 x.days(1);
                 break;
+            case 5:
+            case 6:
+            case 7:
+                x.text(what - 5);
+                break;
             default:
-                x.text(what - 6);
+                x.law(what - 9);
                 break;
         }
     }
