@@ -8,6 +8,7 @@ import com.sun.source.tree.LambdaExpressionTree;
 import com.sun.source.tree.MemberReferenceTree;
 import com.sun.source.tree.MethodInvocationTree;
 import com.sun.source.tree.MethodTree;
+import com.sun.source.tree.NewArrayTree;
 import com.sun.source.tree.NewClassTree;
 import com.sun.source.tree.SynchronizedTree;
 import com.sun.source.tree.ThrowTree;
@@ -202,7 +203,16 @@ public final class LanguageTest {
             if (owner.startsWith("RoadWheels")) {
                 callsOf(method).add(owner.substring(owner.lastIndexOf('.') + 1) + ".<init>");
             }
+            boolean thrown = getCurrentPath().getParentPath().getLeaf() instanceof ThrowTree;
+            rule(12, thrown || method.endsWith(".<init>"), "new " + owner + " behind the constructor, " + at(tree));
             return super.visitNewClass(tree, none);
+        }
+
+        /** Rows are made once, and used again by each call. */
+        @Override
+        public Void visitNewArray(NewArrayTree tree, Void none) {
+            rule(12, method.endsWith(".<init>"), "a row made behind the constructor, " + at(tree));
+            return super.visitNewArray(tree, none);
         }
 
         @Override
